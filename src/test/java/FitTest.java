@@ -10,6 +10,7 @@ public final class FitTest {
         share();
         setting();
         fewest();
+        fewestNotLeastBits();
         check.end("FitTest");
     }
 
@@ -161,5 +162,20 @@ public final class FitTest {
         x.slack(0);
         check.due("all cannot", x.fewest(1000), LongSeats.NONE);
         check.due("999 of 1001 thousandths", x.fewest(999), 3);
+    }
+
+    private static void fewestNotLeastBits() {
+        String narrow = "s100,300,600,200;p0,0,1;";
+        String low = "s300,300,600,250;p0,0,1;";
+        String wide = "s100,300,600,700;p0,0,1;";
+        LongSeats x = seatsOf("l1,1;" + narrow + low + wide);
+        x.slack(300);
+        x.body(500, 280, 500, 600, 200, 10);
+        x.body(500, 300, 500, 600, 250, 10);
+        check.due("two of one each", x.share(3, 0), 20);
+        check.due("one ahead of two with less bits", x.fewest(1000), 4);
+        check.due("the least bits of one", x.fewest(500), 1);
+        Check.layText(x, "l1,1;" + narrow);
+        check.due("a seat laid no more fits nobody", x.fewest(1000), LongSeats.NONE);
     }
 }

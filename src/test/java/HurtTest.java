@@ -149,6 +149,10 @@ public final class HurtTest {
         LongSeats cut = seatOf("l50,10;t0,101,0,0,0;l50,10;t1,0,0,0,0;s100,300,600,200;p0,100,1;p1,100,1;", 101);
         cut.road(0, 0, 1000);
         check.due("101*50/100", cut.through(0, 0, 0, 0), 500);
+        // pushes 99 and 1
+        LongSeats edge = seatOf("l50,99;t0,1,0,0,0;l50,1;t1,0,0,0,0;s100,300,600,200;p0,100,1;p1,100,1;", 100);
+        edge.road(0, 0, 1000);
+        check.due("99/100, cut", edge.through(0, 0, 0, 0), 0);
     }
 
     private static void dose() {

@@ -45,7 +45,9 @@ public final class RestTest {
 
     private static void pieceByPiece() {
         String text = "l10,10,10,20,5,40,5,200;s100,300,600,200;p0,100,1;";
-        level(seatOf(text, 100), 90, 1);
+        LongSeats whole = seatOf(text, 100);
+        level(whole, 90, 1);
+        check.due("press of a whole push by an area of 1", whole.press(0, 0, 0), 10000);
         level(seatOf(text, 300), 80, 1);
         level(seatOf(text, 500), 75, 1);
         level(seatOf(text, 700), 74, 1);

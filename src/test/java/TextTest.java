@@ -140,6 +140,9 @@ public final class TextTest {
         fault("l1,1;t0,0,0,301,0;", 5);
         fault("l1,1;t0,0,0,0,301;", 5);
         fault("l1,1;t0,0,0,0;", 5);
+        fault("l1,1;t,0,0,0,0;", 5);
+        fault("l1,1;t0,,0,0,0;", 5);
+        fault("l1,1;t0,0,0,0,;", 5);
         fault("l1,1;t0,0,0,0,0,0;", 5);
         fault("l1,1;t1,0,0,0,0;l1,1;", 5);
         fault("l1,1;l1,1;t1,0,0,0,0;t0,0,0,0,0;t1,1,1,1,1;", LongSeats.NONE);
@@ -173,6 +176,8 @@ public final class TextTest {
         fault(head + "p0,0,0;", 22);
         fault(head + "p0,0,401;", 22);
         fault(head + "p0,0;", 22);
+        fault(head + "p,0,1;", 22);
+        fault(head + "p0,,1;", 22);
         fault(head + "p0,0,1,1;", 22);
         fault("l1,1;p0,0,1;", 5);
         fault(head + "p0,0,1;".repeat(6), LongSeats.NONE);
@@ -273,6 +278,12 @@ public final class TextTest {
         int[] want = {70, 3, 2, 3, 2, 1007, 2};
         for (int what = 0; what <= 6; what++) {
             check.due("count " + what, x.count(what), want[what]);
+        }
+        for (int i = 0; i < 3; i++) {
+            Check.layText(x, "l1,1;s100,300,600,200;p0,0,1;");
+            check.due("layers laid anew", x.count(1), 1);
+            check.due("seats laid anew", x.count(2), 1);
+            check.due("patches laid anew", x.count(3), 1);
         }
         check.due("count -1", x.count(-1), LongSeats.BAD);
         check.due("count 7", x.count(7), LongSeats.BAD);

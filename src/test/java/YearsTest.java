@@ -4,6 +4,7 @@ public final class YearsTest {
 
     public static void main(String[] args) {
         years();
+        cutJustBelow();
         restAnewEachYear();
         wornOut();
         until();
@@ -43,6 +44,12 @@ public final class YearsTest {
         check.due("one beyond 100", x.years(0, 0, 1, 1), LongSeats.FULL);
         check.due("BAD ahead of FULL", x.years(0, 0, 1, 21), LongSeats.BAD);
         check.due("another seat has years left", x.years(1, 0, 1, 20), 21);
+    }
+
+    private static void cutJustBelow() {
+        LongSeats x = seatOf("l50,20;s100,300,600,200;p0,100,1;", 999);
+        check.due("999 * 1001 / 1000000", x.until(0, 0, 1001, 1), LongSeats.NONE);
+        check.due("999 * 1002 / 1000000", x.until(0, 0, 1002, 1), 1);
     }
 
     private static void restAnewEachYear() {
