@@ -144,14 +144,17 @@ public final class LongSeats {
     public int fits(int body, int seat, int height, int way) {
         Body who = crowd.bodyAt(body);
         Seat where = laid.seatAt(seat);
-        if (who == null || where == null
-                || !isWithin(height, -1, SETTINGS - 1) || !isWithin(way, 0, SETTINGS - 1)) {
+        if (who == null || where == null) {
             return BAD;
         }
-        boolean fitting = height == -1
-                ? crowd.fitsSomehow(who, where)
-                : crowd.fitsAt(who, where, height, way);
-        return fitting ? 1 : 0;
+        // here no setting is told, so there is no way that could be wrong
+        if (height == -1) {
+            return crowd.fitsSomehow(who, where) ? 1 : 0;
+        }
+        if (!isWithin(height, 0, SETTINGS - 1) || !isWithin(way, 0, SETTINGS - 1)) {
+            return BAD;
+        }
+        return crowd.fitsAt(who, where, height, way) ? 1 : 0;
     }
 
     public int share(int seats, int what) {

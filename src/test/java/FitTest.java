@@ -6,6 +6,7 @@ public final class FitTest {
         slack();
         fitsAtEdges();
         fitsSomehow();
+        fitsSomehowWhateverTheWay();
         fitsWrong();
         share();
         setting();
@@ -67,6 +68,17 @@ public final class FitTest {
         check.due("more slack", x.fits(2, 0, -1, 0), 1);
     }
 
+    private static void fitsSomehowWhateverTheWay() {
+        LongSeats x = seatsOf("l1,1;s400,500,1000,450;p0,0,1;");
+        x.body(500, 580, 500, 420, 450, 1);
+        x.body(500, 580, 499, 420, 450, 1);
+        int[] ways = {-1, 0, 9, 10, -2, Integer.MIN_VALUE, Integer.MAX_VALUE};
+        for (int way : ways) {
+            check.due("fits at some, way " + way, x.fits(0, 0, -1, way), 1);
+            check.due("fits at none, way " + way, x.fits(1, 0, -1, way), 0);
+        }
+    }
+
     private static void fitsWrong() {
         LongSeats x = seatsOf("l1,1;s400,500,1000,450;p0,0,1;");
         x.body(500, 440, 590, 560, 450, 1);
@@ -76,7 +88,6 @@ public final class FitTest {
             check.due("seat", x.fits(0, v, 0, 0), LongSeats.BAD);
             check.due("height", x.fits(0, 0, v, 0), LongSeats.BAD);
             check.due("way", x.fits(0, 0, 0, v), LongSeats.BAD);
-            check.due("way, at some", x.fits(0, 0, -1, v), LongSeats.BAD);
             check.due("body, at some", x.fits(v, 0, -1, 0), LongSeats.BAD);
             check.due("seat, at some", x.fits(0, v, -1, 0), LongSeats.BAD);
             check.due("share", x.share(v, 0), LongSeats.BAD);
@@ -85,6 +96,8 @@ public final class FitTest {
             check.due("setting what", x.setting(0, v), LongSeats.BAD);
         }
         check.due("way -1", x.fits(0, 0, 0, -1), LongSeats.BAD);
+        check.due("no such body, any way", x.fits(1, 0, -1, -1), LongSeats.BAD);
+        check.due("no such seat, any way", x.fits(0, 1, -1, -1), LongSeats.BAD);
         check.due("share of a seat that is not", x.share(2, 0), LongSeats.BAD);
         check.due("share of all bits", x.share(-1, 0), LongSeats.BAD);
         check.due("share what", x.share(1, 2), LongSeats.BAD);

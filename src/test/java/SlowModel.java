@@ -354,7 +354,7 @@ final class SlowModel {
     }
 
     int fits(int body, int seat, int height, int way) {
-        if (noBody(body) || noSeat(seat) || out(height, -1, 9) || out(way, 0, 9)) {
+        if (noBody(body) || noSeat(seat) || height != -1 && (out(height, 0, 9) || out(way, 0, 9))) {
             return BAD;
         }
         if (height == -1) {
