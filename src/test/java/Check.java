@@ -1,3 +1,5 @@
+import java.util.List;
+
 /** Counts answers that are not due, and helps tests to write texts. */
 final class Check {
     private int wrong = 0;
@@ -16,6 +18,21 @@ final class Check {
         if (!so) {
             wrong++;
             System.out.println("not so: " + what);
+        }
+    }
+
+    /** Rows of answers; tells the first that differs. */
+    void same(String what, List<String> got, List<String> want) {
+        seen++;
+        if (!got.equals(want)) {
+            wrong++;
+            int at = 0;
+            while (at < got.size() && at < want.size() && got.get(at).equals(want.get(at))) {
+                at++;
+            }
+            String is = at < got.size() ? got.get(at) : "nothing";
+            String was = at < want.size() ? want.get(at) : "nothing";
+            System.out.println(what + ": " + is + ", due is " + was);
         }
     }
 
