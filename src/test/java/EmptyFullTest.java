@@ -16,6 +16,8 @@ public final class EmptyFullTest {
         noBodies();
         noTrials();
         laidAndEmptiedAgain();
+        laidAgainAndAgain();
+        seatsLaidNoMore();
         bytes();
         longestText();
         twelveBodies();
@@ -159,6 +161,40 @@ public final class EmptyFullTest {
         check.due("patches", x.count(3), 0);
         check.due("bodies stay", x.count(4), 3);
         check.due("nobody fits", x.fewest(1), NONE);
+    }
+
+    /** Nothing of a seat or a layer stays, however often another one is laid in its place. */
+    private static void laidAgainAndAgain() {
+        LongSeats x = Scenes.oneSeat("l10,10,10,20;t0,7,7,7,7;" + Scenes.SEAT + "p0,100,1;", 400);
+        x.road(0, 0, 100);
+        for (int i = 0; i < 6; i++) {
+            check.due("nothing is WORN", x.worn(0, 0), 0);
+            check.due("no YEARS", x.years(0, 0, 5000, 1), 1);
+            check.due("WORN", x.worn(0, 0), 2);
+            boolean plain = i % 3 == 1;
+            String layer = plain ? "l50,10;" : "l10,10,10,20;t0,7,7,7,7;";
+            check.due("laid", Check.layText(x, layer + Scenes.SEAT + "p0,100,1;"), 1);
+            check.due("its own pieces", x.level(0, 0, 0), plain ? 60 : 799);
+            check.due("what it lets through", x.through(0, 0, 0, 0), plain ? 100 : 7);
+            check.due("one patch", x.count(3), 1);
+        }
+    }
+
+    /** A seat that fits all is of no help any more when it is laid no more. */
+    private static void seatsLaidNoMore() {
+        String narrow = "s300,300,600,200;p0,0,1;";
+        String wide = "s300,300,600,700;p0,0,1;";
+        LongSeats x = new LongSeats();
+        x.body(500, 300, 500, 500, 300, 1);
+        Check.layText(x, "l1,1;" + narrow + wide);
+        check.due("the second", x.fewest(1000), 2);
+        check.due("the second", x.share(2, 0), 1);
+        Check.layText(x, "l1,1;" + narrow);
+        check.due("none", x.fewest(1000), NONE);
+        check.due("none", x.fewest(1), NONE);
+        check.due("none", x.share(1, 0), 0);
+        check.due("no such seat", x.share(2, 0), BAD);
+        check.due("no such seat, whatever is asked", x.share(2, 1), BAD);
     }
 
     private static LongSeats withBytes(int n) {

@@ -20,6 +20,7 @@ public final class TextBoundsTest {
         bytesOfNumbers();
         whereItemsEnd();
         firstFaultOfSeveral();
+        numbersOfAnotherText();
         seatsWithoutPatches();
         layerEffects();
         toneEffects();
@@ -82,6 +83,10 @@ public final class TextBoundsTest {
             number(head, "l2,2,2,2,2,#;", 1, 200);
             number(head, "l2,2,2,2,2,2,#,2;", 1, 100);
             number(head, "l2,2,2,2,2,2,2,#;", 1, 200);
+            // a piece may be harder than any is long, whatever comes behind it
+            number(head, "l2,#,2,2,2,2,2,2;", 1, 200);
+            number(head, "l2,2,2,#,2,2,2,2;", 1, 200);
+            number(head, "l2,2,2,2,2,#,2,2;", 1, 200);
         }
     }
 
@@ -244,6 +249,21 @@ public final class TextBoundsTest {
         check.due("both wrong", Check.faultOf("l0,1;x"), 0);
         check.due("the second and third", Check.faultOf("l1,1;l1,0;l0,1;"), 5);
         check.due("a seat without patches ahead of it", Check.faultOf(Scenes.SEAT + Scenes.SEAT + "x"), 34);
+    }
+
+    /** Numbers of a text that was wiped say nothing of the next one. */
+    private static void numbersOfAnotherText() {
+        LongSeats x = new LongSeats();
+        Check.write(x, "l9999,9999,9999,9999,9999,9999,9999,9999;");
+        check.due("a fault", x.fault(), 0);
+        x.wipe();
+        Check.write(x, "l1,1;t0,0,0,0,0;" + Scenes.SEAT + "p0,0,1;");
+        check.due("none", x.fault(), NONE);
+        check.due("laid", x.lay(), 1);
+        x.wipe();
+        Check.write(x, "l1,1,1;");
+        check.due("too few of its own", x.fault(), 0);
+        check.due("not laid", x.lay(), NO);
     }
 
     private static void seatsWithoutPatches() {
