@@ -5,13 +5,17 @@ import java.lang.reflect.Method;
 import java.lang.reflect.Modifier;
 import java.nio.file.Files;
 import java.nio.file.Path;
+import java.util.ArrayList;
 import java.util.Arrays;
+import java.util.List;
 import java.util.Set;
 import java.util.TreeSet;
+import java.util.regex.Matcher;
 import java.util.regex.Pattern;
 
-/** The public face, and what LANGUAGE.md rules out and a look at the file can tell. */
+/** The public face, as the document has it, and what LANGUAGE.md rules out and a look at the file can tell. */
 public final class FaceTest {
+    private static final String ROOT = System.getProperty("project", ".");
     private static final Check check = new Check();
 
     private static final String[] METHODS = {
@@ -27,7 +31,9 @@ public final class FaceTest {
 
     public static void main(String[] args) throws IOException {
         face();
+        faceOfTheDocument();
         insideClasses();
+        shapes();
         source();
         check.end("FaceTest");
     }
@@ -56,6 +62,16 @@ public final class FaceTest {
         check.isTrue("the constants of the face", fields.equals(Set.of("BAD", "NO", "FULL", "NONE")));
     }
 
+    private static void faceOfTheDocument() throws IOException {
+        String document = Files.readString(Path.of(ROOT, "../shared/DOC.md"));
+        Set<String> told = new TreeSet<>();
+        Matcher call = Pattern.compile("    public (\\w+ \\w+\\(.*\\));\n").matcher(document);
+        while (call.find()) {
+            told.add(call.group(1).replaceAll("(int|long) \\w+(?=[,)])", "$1").replace(", ", ","));
+        }
+        check.isTrue("the document's face: " + told, told.equals(new TreeSet<>(Arrays.asList(METHODS))));
+    }
+
     private static void insideClasses() {
         Set<String> names = new TreeSet<>();
         for (String method : METHODS) {
@@ -75,9 +91,31 @@ public final class FaceTest {
         }
     }
 
+    /** Rules 5 and 11: static fields are constants, few parameters, few fields. */
+    private static void shapes() {
+        List<Class<?>> all = new ArrayList<>(Arrays.asList(LongSeats.class.getDeclaredClasses()));
+        all.add(LongSeats.class);
+        Set<Class<?>> constants = Set.of(int.class, long.class, boolean.class, char.class, String.class,
+                int[].class, long[].class, char[].class, byte[].class);
+        for (Class<?> c : all) {
+            int own = 0;
+            for (Field f : c.getDeclaredFields()) {
+                if (Modifier.isStatic(f.getModifiers())) {
+                    check.isTrue(f + " is a constant", Modifier.isFinal(f.getModifiers())
+                            && constants.contains(f.getType()));
+                } else {
+                    own++;
+                }
+            }
+            check.isTrue(c + " has twenty fields at most", own <= 20);
+            for (Method m : c.getDeclaredMethods()) {
+                check.isTrue(m + " takes seven at most", m.getParameterCount() <= 7);
+            }
+        }
+    }
+
     private static void source() throws IOException {
-        String root = System.getProperty("project", ".");
-        String code = Files.readString(Path.of(root, "src/main/java/LongSeats.java"))
+        String code = Files.readString(Path.of(ROOT, "src/main/java/LongSeats.java"))
                 .replaceAll("(?s)/\\*.*?\\*/", "").replaceAll("//[^\n]*", "");
         String[] ruledOut = {"throw", "throws", "try", "catch", "synchronized", "assert", "import", "package", "->",
             "::", "Exact", "System", "Thread", "Object", "protected", "equals", "hashCode", "toString"};
